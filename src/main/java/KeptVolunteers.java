@@ -266,12 +266,8 @@ public final class KeptVolunteers {
         if (!isNumber(person) || !isTrick(trick)) {
             return UNKNOWN;
         }
-        if (troupe.seen >= MAX_SEEN) {
-            return FULL;
-        }
         int suited = bill.tricks[trick].suitedStrongs();
-        troupe.addSeen(person, fits ? suited : ALL_STRONGS & ~suited);
-        return troupe.seen;
+        return troupe.addSeen(person, fits ? suited : ALL_STRONGS & ~suited) ? troupe.seen : FULL;
     }
 
     public int forget() {
@@ -495,9 +491,8 @@ public final class KeptVolunteers {
         }
 
         boolean isShow() {
-            int end = tricksEnd();
-            int behind = size - end - 1;
-            return end < size && firstFault() == size && behind > 0 && behind % 2 == 0;
+            int behind = size - tricksEnd() - 1;
+            return behind > 0 && behind % 2 == 0 && firstFault() == size;
         }
 
         /** The place of the first ';', or behind all letters if there is none. */
@@ -866,12 +861,14 @@ public final class KeptVolunteers {
             return ahead;
         }
 
-        void addSeen(int person, int strongs) {
-            if (seen < MAX_SEEN) {
-                seenOf[seen] = person;
-                seenStrongs[seen] = strongs;
-                seen++;
+        boolean addSeen(int person, int strongs) {
+            if (seen >= MAX_SEEN) {
+                return false;
             }
+            seenOf[seen] = person;
+            seenStrongs[seen] = strongs;
+            seen++;
+            return true;
         }
 
         int strongsOf(int person) {
@@ -1029,14 +1026,14 @@ public final class KeptVolunteers {
             gone = 0;
             seed = firstSeed;
             for (int i = 0; i < nights; i++) {
-                callUp(draw(STRONGEST + 1));
+                callUp(drawStrong());
                 sendHome(play(bill));
             }
         }
 
-        private int draw(int bound) {
+        private int drawStrong() {
             seed = (int) ((1103515245L * seed + 12345L) & 0x7fffffffL);
-            return bound > 0 ? seed / 65536 % bound : 0;
+            return seed / 65536 % (STRONGEST + 1);
         }
 
         private void callUp(int strong) {

@@ -430,9 +430,13 @@ public final class PromisesTest {
         for (int i = 0; i < 5; i++) {
             due("13: held by " + i, x.person(i, 5), held[i]);
         }
-        due("13: nights", x.count(5), 2);
-        due("13: done on these", x.count(6), 3);
-        for (int i = 3; i <= 99; i++) {
+        x.cast(2, 0);
+        x.drop(2, 1);
+        x.cast(2, 0);
+        due("13: the first holds it, too", x.night() + 10 * x.person(0, 5), 3 + 10);
+        due("13: nights", x.count(5), 3);
+        due("13: done on these", x.count(6), 6);
+        for (int i = 4; i <= 99; i++) {
             due("13: night " + i, x.night(), 3);
         }
         due("13: night 100", x.night(), FULL);
@@ -523,6 +527,16 @@ public final class PromisesTest {
         due("17: no trick 4", x.most(14), 0);
         x.letGo(0);
         due("17: nobody kept", x.most(0), 0);
+        x = Expect.show("t019,t119;90");
+        due("17: by the strong one", x.most(0), 2);
+        x.letGo(0);
+        x.call(0, 8);
+        due("17: not by the one in his place", x.most(0), 0);
+        x = Expect.show(FIVE);
+        x.most(0);
+        Expect.write(x, LEAST);
+        x.show();
+        due("17: no trick 4 any more", x.most(14), 0);
         due("17: by the rest", Expect.show("l010,t110;00").most(0), 1);
         due("17: behind the rest", Expect.show("l010,t210;00").most(0), 2);
     }
@@ -546,6 +560,9 @@ public final class PromisesTest {
         due("18: with none", x.fewest(0), NONE);
         due("18: which of none", x.fewest(1), NONE);
         due("18: these were done, too", x.count(15), 2);
+        x = Expect.show("p010,p010,t010;0001020304");
+        due("18: all five", x.fewest(0), 5);
+        due("18: which", x.fewest(1), 31);
         x = Expect.show("t015,t115;609080");
         due("18: the least of like ones", x.fewest(1), 1);
         x.letGo(0);
@@ -724,6 +741,13 @@ public final class PromisesTest {
         x = Expect.show("r019,t010,t110;00");
         due("24: 0 and 8 do not hold 9; who is taken is not free", x.tours(2, 0, 0), 2);
         due("24: so the second is let go", x.tours(2, 0, 1), 1);
+        x = Expect.show("t010,t010,t010,t010,t010;00");
+        due("24: one more each night, up to five", x.tours(7, 0, 0), 1 + 2 + 3 + 4 + 5 + 5 + 5);
+        due("24: who is not kept is not let go", x.tours(7, 0, 1), 0);
+        due("24: but drawn", x.tours(7, 0, 2), Expect.show(FIVE).tours(7, 0, 2));
+        x = Expect.show("t010,t010;00");
+        due("24: two are kept", x.tours(7, 0, 0), 1 + 2 * 6);
+        due("24: each further one is let go", x.tours(7, 0, 1), 5);
     }
 
     private void image() {
@@ -767,6 +791,9 @@ public final class PromisesTest {
         due("26: nor how often most() was done", x.count(14), 2);
         due("26: nor fewest()", x.count(15), 1);
         due("26: nor spare()", x.count(16), 1);
+        x.letGo(0);
+        x.restore();
+        due("26: he is kept again", x.person(0, 2), 1);
         due("26: a page that is none", x.show(), STATE);
         due("26: the image stays", x.restore(), 1);
         x.blank();
@@ -803,6 +830,7 @@ public final class PromisesTest {
         due("27: count(-1)", x.count(-1), OUTSIDE);
         due("27: count(MIN)", x.count(MIN), OUTSIDE);
         due("27: bound of five ropes at once", Expect.show(ROPES).count(4), 10);
+        due("27: bound in hour 0", Expect.show("p010,t011;00").count(4), 3);
     }
 
     private static long fold(long h, int... numbers) {

@@ -43,6 +43,7 @@ public final class EdgesTest {
         t.tryNext();
         t.toursAtTheEdges();
         t.toursLine();
+        t.toursDraw();
         t.imageKeeps();
         t.imageLatest();
         t.imageLimits();
@@ -157,6 +158,26 @@ public final class EdgesTest {
         due("4: so is its fault", x.fault(), 0);
         due("2: the first letter again", x.letter('t'), 1);
         due("3: blank() leaves the show", x.blank() + 10 * x.count(0), 51);
+        for (String sign : new String[] {"A", "t", "0", ",", ";", "~"}) {
+            KeptVolunteers full = Expect.page(sign.repeat(36));
+            due("4: 36 times " + sign, full.fault(), sign.equals("t") ? 1 : 0);
+            due("5: 36 times " + sign, full.show(), STATE);
+            due("3: 36 times " + sign, full.blank(), 36);
+        }
+        pageAnew();
+    }
+
+    /** What stood on the page before does not count any more. */
+    private void pageAnew() {
+        KeptVolunteers x = Expect.page(FIVE + "0");
+        x.blank();
+        Expect.write(x, "t010,t010");
+        due("4: a shorter text behind a longer one", x.fault(), 9);
+        due("5: it is none", x.show(), STATE);
+        Expect.write(x, ";5");
+        due("5: nor is that", x.show(), STATE);
+        due("2: the last letter", x.letter('0'), 12);
+        due("5: it is one", x.show() + 10 * x.count(1), 12);
     }
 
     private void atFirst() {
@@ -205,6 +226,7 @@ public final class EdgesTest {
             x.move(true);
             x.letGo(0);
             x.call(0, 1);
+            x.move(false);
             x.see(0, 0, true);
             x.see(4, 1, false);
             x.image();
@@ -349,6 +371,7 @@ public final class EdgesTest {
         for (int i = 0; i < 5; i++) {
             due("9: the first in " + i, x.cast(i, 4), 1);
         }
+        due("8: BUSY in the HOURS of all, and by the rest", x.person(4, 4), 63);
         due("9: the second in the PAIR", x.cast(1, 0), 2);
         due("9: the second in the ROPE", x.cast(4, 0), 2);
         due("9: a TRICK has as many as it wants", x.cast(0, 0), STATE);
@@ -500,6 +523,9 @@ public final class EdgesTest {
         mostIs("t010,t010,t010,t010,t010;0000000000", 1, 2, 4, 8, 16);
         mostIs("r740,r740,r740,r740,r740;0000000000", 0, 0, 0, 3, 12);
         mostIs("t010,t110,t210,t310,t410;00", 1, 1, 1, 1, 1);
+        mostIs("t010,t110,t020;50", 1, 1, 0);
+        mostIs("t010,t110,t020;5050", 1, 1, 2);
+        mostIs("p010,p110,p020;5050505050", 3, 3, 12);
         KeptVolunteers x = Expect.show("t010,t010;0000");
         x.cast(0, 1);
         due("2: whoever is CAST now does not matter", x.most(10) + 10 * x.most(11), 21);
@@ -649,6 +675,13 @@ public final class EdgesTest {
             due("21: the first MOVE to that of " + i, x.route(1 << i, 1), first[i]);
         }
         due("21: all five", x.route(31, 0), 4);
+        for (int town = 0; town <= 5; town++) {
+            String from = "5" + town;
+            KeptVolunteers one = Expect.show("t010,t010;" + from);
+            KeptVolunteers four = Expect.show("t010,t010;" + from + from + from + from);
+            due("21: two from TOWN " + town, four.route(3, 0), one.route(1, 0));
+            due("21: four from TOWN " + town, four.route(15, 1), one.route(1, 1));
+        }
         x.move(false);
         due("21: from 5 to 0", x.route(1, 0) + 10 * x.route(1, 1), 11);
         due("21: from 5 to 4", x.route(16, 0) + 10 * x.route(16, 1), 1);
@@ -785,6 +818,20 @@ public final class EdgesTest {
         toursAre("t010,p110,t110", 1, 1, 0);
         toursAre("t010,p110,t110", 2, 3, 0);
         toursAre("t010,p110,t110", 3, 6, 0);
+        toursAre("t010,t110,t020", 1, 2, 0);
+        toursAre("t010,t110,t020", 2, 5, 0);
+    }
+
+    /** How many of NEEDS 1 to 9 the only one meets is how STRONG he was drawn. */
+    private void toursDraw() {
+        KeptVolunteers low = Expect.show("t011,t112,t213,t314,t415;50");
+        KeptVolunteers high = Expect.show("t016,t117,t218,t319;50");
+        for (int i = 0; i < 200; i++) {
+            int seed = i < 100 ? i : MAX - i * 7919;
+            long next = (1103515245L * seed + 12345L) % (1L << 31);
+            int strong = low.tours(1, seed, 0) + high.tours(1, seed, 0);
+            due("3: a DRAW of 10 by SEED " + seed, strong, next / 65536 % 10);
+        }
     }
 
     private void toursAre(String tricks, int nights, int done, int gone) {

@@ -47,6 +47,7 @@ public final class PromisesTest {
         t.count();
         t.digest();
         t.refusalsChangeNothing();
+        t.exampleOfReadme();
         t.expect.end();
     }
 
@@ -895,5 +896,20 @@ public final class PromisesTest {
         x.restore();
         x.count(17);
         due("refusals", x.digest(), then);
+    }
+
+    /** What README.md says of its example is so. */
+    private void exampleOfReadme() {
+        x = new KeptVolunteers();
+        Expect.write(x, "t023,p114;7042");
+        due("README: fault()", x.fault(), 14);
+        due("README: show()", x.show(), 2);
+        due("README: most(0)", x.most(0), 1);
+        due("README: cast(1, 0)", x.cast(1, 0), 1);
+        due("README: cast(0, 0)", x.cast(0, 0), STATE);
+        due("README: night()", x.night(), 0);
+        due("README: cast(1, 1)", x.cast(1, 1), 2);
+        due("README: night() with both", x.night(), 1);
+        due("README: route(2, 0)", x.route(2, 0), 2);
     }
 }
